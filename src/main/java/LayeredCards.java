@@ -494,7 +494,7 @@ public final class LayeredCards {
         if (handle < 0 || handle >= HANDLE_ROOM || (card != -1 && !game.has(card))) {
             return BAD;
         }
-        put(handles, handle, card == -1 ? NOT : card);
+        put(handles, handle, card);
         return 1;
     }
 
@@ -1047,7 +1047,6 @@ public final class LayeredCards {
             earlier = NOT;
             between = NOT;
             end = END_LIMIT;
-            times = 0;
             for (int time = 0; time <= RUN_LIMIT; time++) {
                 times = time;
                 if (hasEnded(game)) {
@@ -1126,7 +1125,7 @@ public final class LayeredCards {
                 event.become(HIT, 1 - owner, at(layering.values, 1) + a);
             } else if (kind == HEAL) {
                 event.become(MEND, owner, at(layering.values, 2) + a);
-            } else {
+            } else if (kind == FETCH) {
                 event.become(DRAW, owner, at(layering.values, 0) + a);
             }
         }

@@ -21,6 +21,11 @@ public final class HandleTests {
         due("the others as before", x.tells(4, 0), 110);
         due("hold nothing", x.hold(6, -1), 1);
         due("it does", x.tells(6, 0), -11);
+        LayeredCards y = new LayeredCards();
+        y.card(Games.HEAL, 0, 0, 3);
+        for (int handle = 0; handle < 8; handle++) {
+            due("a handle holds no card by itself", y.tells(handle, 0), -11);
+        }
         int[][] wrong = {{-1, 0}, {8, 0}, {0, -2}, {0, 2}, {0, 24}, {LOW, 0}, {HIGH, 0}, {0, LOW}, {0, HIGH}, {8, -1},
             {-1, -1}};
         for (int[] w : wrong) {

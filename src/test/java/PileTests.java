@@ -80,6 +80,14 @@ public final class PileTests {
         Games.resolved(y, HEAL, 0, 0, 0);
         due("a mend of 1 does", y.pile(0), 10002);
         due("the echo is there", y.of(echo, 5), 3);
+        LayeredCards least = new LayeredCards();
+        Games.resolved(least, ECHO, 1, 20, -2);
+        Games.resolved(least, HEAL, 0, 0, 0);
+        due("the shadow of least number", least.pile(0), 10000);
+        due("resolve it", least.resolve(), 0);
+        due("it is told", least.trace(0, 0), 10000);
+        due("it happens", least.trace(1, 0), 0);
+        due("nothing comes to the table", least.count(2), 1);
         LayeredCards z = new LayeredCards();
         Games.resolved(z, ECHO, 0, 32, 1);
         Games.resolved(z, STRIKE, 0, 0, 0);
@@ -167,6 +175,12 @@ public final class PileTests {
         due("a shadow", x.pile(0), 12001);
         Games.onPile(x, STOP, 0, 0, 0);
         due("stop a shadow", x.resolve(), 0);
+        LayeredCards y = new LayeredCards();
+        int first = Games.onPile(y, HEAL, 0, 0, 0);
+        Games.onPile(y, STOP, 0, 0, 0);
+        y.run();
+        due("the first card is stopped", y.of(first, 5), 4);
+        due("and told by none", y.trace(0, 1), NOT);
     }
 
     private static void clear() {
@@ -275,6 +289,15 @@ public final class PileTests {
         ended(x, "loop again", 2, 2, 0, 2);
         x.mend(1, -5);
         ended(x, "lost at once", 0, 1, NOT, NOT);
+    }
+
+    private static void nearLoop() {
+        LayeredCards x = new LayeredCards();
+        Games.resolved(x, ECHO, 0, 22, 1);
+        Games.onPile(x, HEAL, 0, 0, 0);
+        x.mend(0, 97);
+        ended(x, "mends at 98, 99, 99", 3, 2, 2, 1);
+        ended(x, "mends at 99 from the first", 1, 2, 0, 1);
     }
 
     private static void noLoops() {
@@ -452,6 +475,7 @@ public final class PileTests {
         resolve();
         run();
         loop();
+        nearLoop();
         noLoops();
         atTheLimit();
         turn();

@@ -115,8 +115,13 @@ public final class ThoughtTests {
         x.mend(1, 25);
         due("its worth without a card", x.best(0, 1), -5);
         due("the other one's", x.best(1, 1), 5);
-        Games.inHand(x, STRIKE, 0, 0, -2);
+        int first = Games.inHand(x, STRIKE, 0, 0, -2);
         due("no more than without", x.best(0, 0), NOT);
+        x.base(1, 3);
+        due("the first card", x.best(0, 0), first);
+        due("its worth", x.best(0, 1), -4);
+        due("by turns, too", x.byTurns(1), -4);
+        x.base(1, 2);
         int five = Games.inHand(x, STRIKE, 0, 0, 3);
         Games.inHand(x, HEAL, 0, 0, 4);
         Games.inHand(x, HEAL, 1, 0, 9);
@@ -429,6 +434,10 @@ public final class ThoughtTests {
         long before = look(x);
         int after = x.card(FETCH, 1, 0, 1);
         x.hold(1, after);
+        x.hold(0, after);
+        x.hold(7, after);
+        x.deal(after);
+        Games.resolved(x, Games.SET, 1, 33, 1);
         x.hold(2, add);
         x.play(hand);
         x.play(deck);
@@ -444,7 +453,7 @@ public final class ThoughtTests {
         Games.onPile(x, CLEAR, 1, 0, 0);
         due("run", x.run(), 1);
         due("the add is gone", x.of(add, 5), 4);
-        due("the clock", x.count(5), 2);
+        due("the clock", x.count(5), 3);
         int trace = x.trace(0, 0);
         due("back", x.back(), 6);
         due("the trace stays", x.trace(0, 0), trace);
@@ -461,6 +470,9 @@ public final class ThoughtTests {
         due("turns", x.count(6), 1);
         due("the later card is no more", x.of(after, 0), BAD);
         due("a handle of it holds nothing", x.tells(1, 0), -11);
+        due("nor does the first", x.tells(0, 0), -11);
+        due("nor does the last", x.tells(7, 0), -11);
+        due("the clock is back", x.count(5), 2);
         due("a handle of another one holds it", x.tells(2, 0), 100 + Games.ADD);
         due("seed", x.seed(77), 77);
         x.deck();

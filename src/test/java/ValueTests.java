@@ -109,6 +109,24 @@ public final class ValueTests {
         order(x, two, one, own);
     }
 
+    private static void orderOfSome() {
+        LayeredCards x = new LayeredCards();
+        int one = Games.resolved(x, LIKE, 0, 1, 0);
+        int two = Games.resolved(x, MORE, 0, 10, 0);
+        int set = Games.resolved(x, SET, 0, 20, 5);
+        // the youngest is used first, then there is but the ring
+        order(x, set, one, two);
+        due("like", x.value(0), 2);
+        due("more", x.value(1), 4);
+        LayeredCards y = new LayeredCards();
+        int own = Games.resolved(y, MORE, 0, 0, 0);
+        int add = Games.resolved(y, ADD, 0, 0, 3);
+        order(y, add, own);
+        due("more of its own value behind the other", y.value(0), 8);
+        int again = Games.resolved(y, MORE, 0, 0, 0);
+        order(y, add, own, again);
+    }
+
     private static void depends() {
         LayeredCards x = new LayeredCards();
         int like = Games.resolved(x, LIKE, 0, 12, 0);
@@ -239,6 +257,7 @@ public final class ValueTests {
         heldWithin();
         order();
         orderOfAlike();
+        orderOfSome();
         depends();
         eachReplacer();
         manyReplacers();
