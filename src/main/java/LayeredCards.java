@@ -198,7 +198,7 @@ public final class LayeredCards {
         if (one == other || !isLayerOnTable(one) || !isLayerOnTable(other)) {
             return BAD;
         }
-        return cards.looksAtOther(one) && at(cards.ws, one) == at(cards.vs, other) ? 1 : 0;
+        return looksAtOther(at(cards.kinds, one)) && at(cards.ws, one) == at(cards.vs, other) ? 1 : 0;
     }
 
     private boolean isLayerOnTable(int card) {
@@ -568,7 +568,10 @@ public final class LayeredCards {
     }
 
     private static int within(int n, int least, int most) {
-        return Math.max(least, Math.min(most, n));
+        if (n < least) {
+            return least;
+        }
+        return n > most ? most : n;
     }
 
     private static boolean isPlayer(int player) {
@@ -589,6 +592,11 @@ public final class LayeredCards {
         return kind <= CLEAR ? ANSWER : WATCHER;
     }
 
+    /** Whether a LAYER takes its VALUE w: only such a one DEPENDS. */
+    private static boolean looksAtOther(int kind) {
+        return kind == LIKE || kind == MORE;
+    }
+
     /** What a LAYER makes of its VALUE v, 'own', with 'other' its VALUE w. */
     private static int layered(int kind, int a, int own, int other) {
         switch (kind) {
@@ -605,11 +613,12 @@ public final class LayeredCards {
         }
     }
 
+    /** What a REPLACER makes of an AMOUNT, not held yet. */
     private static int replacedAmount(int kind, int a, int amount) {
         if (kind == TWICE) {
-            return within(amount * 2, 0, LIMIT);
+            return amount * 2;
         }
-        return kind == LESS ? within(amount - a, 0, LIMIT) : amount;
+        return kind == LESS ? amount - a : amount;
     }
 
     /** How an EVENT is told. */
@@ -639,12 +648,6 @@ public final class LayeredCards {
             put(vs, card, vw / 10);
             put(ws, card, vw % 10);
             put(as, card, a);
-        }
-
-        /** Whether a LAYER takes its VALUE w: only such a one DEPENDS. */
-        private boolean looksAtOther(int layer) {
-            int kind = at(kinds, layer);
-            return kind == LIKE || kind == MORE;
         }
     }
 
@@ -865,7 +868,7 @@ public final class LayeredCards {
 
         /** Whether it DEPENDS on one not used yet; it does not DEPEND on itself. */
         private boolean waits(int layer) {
-            if (!cards.looksAtOther(layer)) {
+            if (!looksAtOther(at(cards.kinds, layer))) {
                 return false;
             }
             int w = at(cards.ws, layer);
@@ -938,7 +941,7 @@ public final class LayeredCards {
             usedCount++;
             usedBits |= 1 << card;
             int kind = at(cards.kinds, card);
-            amount = replacedAmount(kind, at(cards.as, card), amount);
+            amount = within(replacedAmount(kind, at(cards.as, card), amount), 0, LIMIT);
             if (kind == AWAY) {
                 player = 1 - player;
             } else if (kind == TURN) {
@@ -1178,8 +1181,8 @@ public final class LayeredCards {
     /** THE TAPE, and the reader of its TEXT. */
     private static final class Tape {
         /** The KINDS' words in their order, each with blanks behind it up to WORD_ROOM. */
-        private static final String WORDS = "add    times  set    like   more   "
-                + "twice  away   less   turn   strike heal   fetch  stop   clear  echo   ";
+        private static final String WORDS =
+                "add    times  set    like   more   twice  away   less   turn   strike heal   fetch  stop   clear  echo   ";
         private static final int WORD_ROOM = 7;
         /** A LINE has 11 bytes at least, and a ; behind all but the last. */
         private static final int LINE_ROOM = (TAPE_ROOM + 1) / 12;

@@ -485,6 +485,8 @@ public final class ThoughtTests {
         due("is itself", x.of(after, 0), CLEAR);
         due("in the deck", x.of(after, 5), 0);
         due("the handle holds it not", x.tells(1, 0), -11);
+        due("nor does the first", x.tells(0, 0), -11);
+        due("nor does the last", x.tells(7, 0), -11);
         due("a new image", x.image(), 7);
         due("back to it", x.back(), 7);
         due("it is there", x.of(after, 4), 19);
