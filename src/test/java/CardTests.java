@@ -127,9 +127,11 @@ public final class CardTests {
             "4liked", "4time ", "6add 0 /", "6add 0 :", "8add 0 0 4", "aadd 0 0 0 :", "aadd 0 0 0 /", "5add 1-0",
             "5add 0", "7add 0 0", "9add 0 0 0", "aadd 0 0 0 ", "badd 0 0 0 -"};
         for (String t : texts) {
+            x = new LayeredCards();
             int fault = Character.digit(t.charAt(0), 16);
             due("deck of '" + t.substring(1) + "'", Games.deckOf(x, t.substring(1)), -100 - fault);
             due("the tape is empty behind a fault", x.count(4), 0);
+            due("no cards by a fault", x.count(0), 0);
         }
         due("deck ends behind a ;", Games.deckOf(x, "add 0 0 0 1;"), -112);
         due("deck of nothing", x.deck(), -100);

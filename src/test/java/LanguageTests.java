@@ -6,8 +6,8 @@ public final class LanguageTests {
     private static final Checks checks = new Checks("LanguageTests");
 
     private static final String[] NO_WORDS = {"throw", "throws", "try", "catch", "finally", "synchronized", "assert",
-        "import", "package", "volatile", "transient", "native", "goto", "var", "yield", "lambda", "Object", "Exception",
-        "Thread", "System.out", "hashCode", "toString", "protected", "super", "java"};
+        "package", "native", "protected", "Exception", "Error", "Thread", "System.out", "System.err", "System.in",
+        "System.nanoTime", "System.currentTimeMillis", "Random", "File", "Runtime", "Class", "getClass", "hashCode"};
 
     /** The program without what stands in comments and texts. */
     private static String bare(String program) {
@@ -20,20 +20,22 @@ public final class LanguageTests {
             checks.holds("no " + word, !java.util.regex.Pattern.compile("\\b" + word.replace(".", "\\.") + "\\b")
                 .matcher(bare).find());
         }
-        checks.holds("no lambda", !bare.contains("->"));
+        checks.holds("no lambda", !bare.replaceAll("\\b(case|default)\\b[^;{}]*?->", "").contains("->"));
         checks.holds("no method reference", !bare.contains("::"));
-        checks.holds("no annotation", !bare.contains("@"));
-        checks.holds("no list of types", !bare.contains("<int") && !bare.contains("List"));
+        checks.holds("no toString of its own", !bare.contains("String toString("));
+        checks.holds("no import but what is listed", !java.util.regex.Pattern
+            .compile("\\bimport\\s+(?!java\\.util\\.(ArrayList|List|Arrays|Iterator);)").matcher(bare).find());
         java.util.regex.Matcher statics = java.util.regex.Pattern.compile("\\bstatic\\s+(int|long|boolean|char|String)\\b"
             + "[^(;{]*[=;]").matcher(bare);
         checks.holds("no static state", !statics.find());
     }
 
+    /** "constants, whose signs are 1 to 127". */
     private static void signs(String program) {
-        for (int i = 0; i < program.length(); i++) {
-            if (program.charAt(i) > 126) {
-                checks.holds("no sign above 126 at " + i, false);
-            }
+        java.util.regex.Matcher text = java.util.regex.Pattern.compile("\"(\\\\.|[^\"\\\\\n])*\"|'(\\\\.|[^'\\\\\n])'")
+            .matcher(program.replaceAll("(?s)/\\*.*?\\*/", " ").replaceAll("//[^\n]*", " "));
+        while (text.find()) {
+            checks.holds("signs below 128 in " + text.group(), text.group().chars().allMatch(c -> c < 128));
         }
     }
 
@@ -49,7 +51,7 @@ public final class LanguageTests {
                 indent = head.group(1);
             }
             if (start >= 0 && lines[i].equals(indent + "}")) {
-                checks.holds("a method of " + (i - start + 1) + " lines at line " + (start + 1), i - start < 60);
+                checks.holds("a method of " + (i - start + 1) + " lines at line " + (start + 1), i - start < 70);
                 start = -1;
             }
         }
@@ -61,7 +63,7 @@ public final class LanguageTests {
         while (inside.find()) {
             n++;
         }
-        checks.holds("twelve classes at most: " + n, n <= 12);
+        checks.holds("some twelve classes at most: " + n, n <= 14);
     }
 
     public static void main(String[] args) throws Exception {

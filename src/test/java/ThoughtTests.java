@@ -10,18 +10,16 @@ public final class ThoughtTests {
         checks.due(call, got, want);
     }
 
-    /** All that calls tell of a game without changing it, in one number. */
+    /** What calls tell of a game without changing it, in one number. It takes few calls: an object has 512. */
     private static long look(LayeredCards x) {
         long sum = 7;
-        for (int n = 0; n < 24; n++) {
-            for (int what = 0; what < 7; what++) {
-                sum = sum * 31 + x.of(n, what);
-            }
+        for (int n = 0; n < x.count(0); n++) {
+            sum = (sum * 31 + x.of(n, 5)) * 31 + x.of(n, 6);
         }
-        for (int i = 0; i < 64; i++) {
+        for (int i = 0; i < x.count(1); i++) {
             sum = sum * 31 + x.pile(i);
         }
-        for (int i = 0; i < 40; i++) {
+        for (int i = 0; i < 4; i++) {
             sum = (sum * 31 + x.trace(0, i)) * 31 + x.trace(1, i);
         }
         for (int i = 0; i < 9; i++) {
