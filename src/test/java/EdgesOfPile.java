@@ -200,6 +200,19 @@ public final class EdgesOfPile {
         due("the stop alone is gone", x.count(3), gone + 1);
     }
 
+    /** The SHADOW of the least number, 10000, is no CARD: a STOP takes it off, nothing is GONE by it. */
+    private static void stopTheLeastShadow() {
+        LayeredCards x = new LayeredCards();
+        int echo = Games.resolved(x, ECHO, 1, 10, 0);
+        Games.resolved(x, STRIKE, 0, 0, 0);
+        due("the least", x.pile(0), 10000);
+        Games.onPile(x, STOP, 0, 0, 0);
+        due("run", x.run(), 1);
+        due("nothing is left", x.count(1), 0);
+        due("the strike and the stop are gone", x.count(3), 2);
+        due("the echo stays", x.of(echo, 5), 3);
+    }
+
     /** A STOP stops a STOP: what was below both is resolved. */
     private static void stopAStop() {
         LayeredCards x = new LayeredCards();
@@ -525,6 +538,34 @@ public final class EdgesOfPile {
         }
     }
 
+    /** "An object is used for at most 512 calls": the 512th is answered as the first. */
+    private static void callsOfAnObject() {
+        LayeredCards x = new LayeredCards();
+        x.base(0, 0);
+        for (int n = 1; n <= 510; n++) {
+            due("turn " + n, x.turn(), n % 2);
+        }
+        due("turns", x.count(6), 510);
+        LayeredCards y = Games.looping();
+        for (int n = 12; n <= 511; n++) {
+            due("run", y.run(), n == 12 ? 3 : 2);
+        }
+        due("the earlier one", y.ended(1), 0);
+    }
+
+    /** A TURN is no RUN and no resolve(): what they told stays. */
+    private static void turnTellsNothing() {
+        LayeredCards x = Games.looping();
+        x.run();
+        int stop = Games.resolved(x, STOP, 0, 0, 0);
+        due("turn", x.turn(), 1);
+        due("trace", x.trace(0, 0), stop);
+        due("no event", x.trace(1, 0), NOT);
+        due("ended", x.ended(0), 2);
+        due("the earlier one", x.ended(1), 1);
+        due("between", x.ended(2), 2);
+    }
+
     /** Who has LOST by his DRAW: the TURN goes on to its end. */
     private static void turnThatLoses() {
         LayeredCards x = new LayeredCards();
@@ -579,6 +620,7 @@ public final class EdgesOfPile {
         stopNothing();
         stopOneCard();
         stopAShadow();
+        stopTheLeastShadow();
         stopAStop();
         clearNothing();
         clearTheYoungest();
@@ -599,6 +641,8 @@ public final class EdgesOfPile {
         drawnAndGone();
         turnDraws();
         turnsAndActive();
+        callsOfAnObject();
+        turnTellsNothing();
         turnThatLoses();
         turnDrawsAway();
         turnWithAnEcho();

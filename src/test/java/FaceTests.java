@@ -78,6 +78,15 @@ public final class FaceTests {
             }
             return room;
         }
+        if (o instanceof java.util.List) {
+            for (Object part : (java.util.List<?>) o) {
+                room += 1 + roomOf(part, seen);
+            }
+            return room;
+        }
+        if (o.getClass().getName().startsWith("java.")) {
+            return 1;
+        }
         for (Field field : o.getClass().getDeclaredFields()) {
             if (Modifier.isStatic(field.getModifiers())) {
                 continue;

@@ -615,6 +615,21 @@ final class Model {
         return then;
     }
 
+    /** Whether MATTER is the same if a LOOP of other numbers is another end: the document leaves it open. */
+    boolean matterIsPlain() {
+        Outcome[] plain = new Outcome[1];
+        without(-1, plain);
+        for (Card c : now.tableByAge()) {
+            Outcome[] other = new Outcome[1];
+            without(c.number, other);
+            boolean otherNumbers = other[0].earlier != plain[0].earlier || other[0].between != plain[0].between;
+            if (other[0].end == plain[0].end && otherNumbers) {
+                return false;
+            }
+        }
+        return true;
+    }
+
     int matter() {
         Outcome[] plain = new Outcome[1];
         World with = without(-1, plain);
