@@ -96,6 +96,31 @@ public final class EdgesOfImages {
         due("a new one's age", x.of(Games.resolved(x, ECHO, 0, 0, 0), 6), 1);
     }
 
+    /** Nothing is asked of a CARD that is no more, in whatever place it was. */
+    private static void noMoreAnywhere() {
+        LayeredCards x = new LayeredCards();
+        int like = Games.resolved(x, Games.LIKE, 0, 1, 0);
+        x.image();
+        int add = Games.resolved(x, Games.ADD, 0, 10, 1);
+        int hand = Games.inHand(x, HEAL, 0, 0, 0);
+        int pile = Games.onPile(x, HEAL, 0, 0, 0);
+        due("depends", x.depends(like, add), 1);
+        due("swing", x.swing(add), 0);
+        due("worth", x.worth(hand), 2);
+        due("best", x.best(0, 0), hand);
+        x.back();
+        due("depends on one that is no more", x.depends(like, add), BAD);
+        due("the other way", x.depends(add, like), BAD);
+        due("swing of it", x.swing(add), Games.VOID);
+        due("worth of one that is no more", x.worth(hand), Games.VOID);
+        due("best", x.best(0, 0), NOT);
+        due("play", x.play(hand), BAD);
+        due("deal", x.deal(pile), BAD);
+        due("run", x.run(), 0);
+        due("matter", x.matter(), 0);
+        due("in the hand", x.player(0, 2), 0);
+    }
+
     /** "keeps LIVES": of each PLAYER. */
     private static void keepsLives() {
         for (int player = 0; player < 2; player++) {
@@ -366,6 +391,7 @@ public final class EdgesOfImages {
         imageOfHowMany();
         cardsThatCameSince();
         cardsThatCameSinceElsewhere();
+        noMoreAnywhere();
         keepsLives();
         keepsPlaces();
         keepsAges();

@@ -206,6 +206,21 @@ public final class EdgesOfTexts {
         }
     }
 
+    /** THE TAPE is empty behind deck(): nothing of a longer TEXT is read behind a shorter one. */
+    private static void nothingIsLeftOfATextBefore() {
+        String[] texts = {"strike 1 3 0 -9", "add 0 1 2 3;turn 1 0 3 -4"};
+        for (String text : texts) {
+            for (int n = text.length() - 1; n >= 0; n--) {
+                LayeredCards x = new LayeredCards();
+                due("all of it", Games.deckOf(x, text) > 0 ? 1 : 0, 1);
+                int there = x.count(0);
+                boolean whole = n == text.indexOf(';');
+                due("then the first " + n + " of " + text, Games.deckOf(x, text.substring(0, n)), whole ? 1 : -100 - n);
+                due("cards", x.count(0), there + (whole ? 1 : 0));
+            }
+        }
+    }
+
     /** "the first byte with which no TEXT goes on": each byte at each place of each KIND's LINE. */
     private static void everyByteEverywhere() {
         for (String word : WORDS) {
@@ -286,6 +301,7 @@ public final class EdgesOfTexts {
         digits();
         noMoreThanOne();
         endsTooEarly();
+        nothingIsLeftOfATextBefore();
         everyByteEverywhere();
         theFirstFault();
         alikeLetters();
