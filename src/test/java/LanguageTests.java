@@ -66,10 +66,29 @@ public final class LanguageTests {
         checks.holds("some twelve classes at most: " + n, n <= 14);
     }
 
+    /** "Ahead of the calls .. the interface says: ----": each heading, and the calls behind it in their order. */
+    private static void headings(String program) {
+        String[] due = {
+            "---- cards", "card", "feed", "deck", "of", "deal", "base", "mend", "player",
+            "---- values, events", "value", "layer", "depends", "used",
+            "---- the pile", "play", "pile", "resolve", "run", "ended", "turn",
+            "---- in thought", "dry", "worth", "best", "byTurns", "matter", "swing", "next", "ahead", "trace", "seed",
+            "image", "back",
+            "---- handles", "hold", "tells", "count"};
+        int from = 0;
+        for (String one : due) {
+            boolean isHeading = one.startsWith("-");
+            int place = program.indexOf(isHeading ? "// " + one + "\n" : "public int " + one + "(", from);
+            checks.holds(one + " stands where it is due", place >= 0);
+            from = Math.max(from, place);
+        }
+    }
+
     public static void main(String[] args) throws Exception {
         String program = Files.readString(Path.of(args.length > 0 ? args[0] : "src/main/java/LayeredCards.java"));
         words(bare(program));
         signs(program);
+        headings(program);
         lengths(program);
         classes(bare(program));
         checks.close();
